@@ -523,6 +523,10 @@ public final class PitchTracker {
             return counts.at(frame);
         }
 
+        int choicesIn(int frame) {
+            return counts.at(frame) + 1;
+        }
+
         int lagOf(int frame, int choice) {
             return lags.at(frame, choice);
         }
@@ -559,7 +563,8 @@ public final class PitchTracker {
 
         void find(Candidates candidates, int frames) {
             for (int frame = 0; frame < frames; frame++) {
-                for (int choice = 0; choice <= candidates.howMany(frame); choice++) {
+                int choices = candidates.choicesIn(frame);
+                for (int choice = 0; choice < choices; choice++) {
                     reach(candidates, frame, choice);
                 }
             }
@@ -576,7 +581,8 @@ public final class PitchTracker {
             int lag = candidates.lagOf(frame, choice);
             int least = 0;
             int earlierChoice = 0;
-            for (int earlier = 0; frame > 0 && earlier <= candidates.howMany(frame - 1); earlier++) {
+            int choicesAhead = frame > 0 ? candidates.choicesIn(frame - 1) : 0;
+            for (int earlier = 0; earlier < choicesAhead; earlier++) {
                 int total = totals.at(frame - 1, earlier)
                         + stepCost(candidates.lagOf(frame - 1, earlier), lag);
                 if (earlier == 0 || total < least) {
@@ -598,7 +604,8 @@ public final class PitchTracker {
 
         private int cheapestIn(int frame, Candidates candidates) {
             int cheapest = 0;
-            for (int choice = 1; choice <= candidates.howMany(frame); choice++) {
+            int choices = candidates.choicesIn(frame);
+            for (int choice = 1; choice < choices; choice++) {
                 if (totals.at(frame, choice) < totals.at(frame, cheapest)) {
                     cheapest = choice;
                 }
@@ -648,12 +655,12 @@ public final class PitchTracker {
         private int nearestPattern(int period) {
             long target = (long) period * WHOLE << (OCTAVES - 1);
             int nearest = 0;
-            long least = Long.MAX_VALUE;
+            long least = 0;
             for (int pattern = 0; pattern < OCTAVES * NAMES; pattern++) {
                 int octave = pattern / NAMES;
                 long size = (long) base * partOf(pattern % NAMES) << (OCTAVES - 1 - octave);
                 long distance = Math.abs(size - target);
-                if (distance < least) {
+                if (pattern == 0 || distance < least) {
                     least = distance;
                     nearest = pattern;
                 }
