@@ -5,6 +5,7 @@ public final class NotesTest {
     public static void main(String[] args) {
         noNotes();
         oneNote();
+        firstCallTells();
         nameBeginsNote();
         unvoicedEndsNote();
         onsetBeginsNote();
@@ -54,11 +55,26 @@ public final class NotesTest {
         notesAre("the longest tone", longest, new int[29]);
     }
 
-    /** The lag is 2 for the frames 0 to 4, then 4: another octave, or at the base 64 the same. */
-    private static void nameBeginsNote() {
+    /** Each call tells of the sound that there is, whatever was asked ahead of it. */
+    private static void firstCallTells() {
+        CHECK.same("notes() as the first call", twoTones().notes(), 2);
+        CHECK.same("noteStart(1) as the first call", twoTones().noteStart(1), 5);
+        CHECK.same("noteLength(1) as the first call", twoTones().noteLength(1), 4);
+        CHECK.same("noteOf(5) as the first call", twoTones().noteOf(5), 1);
+        CHECK.refusesIndex("noteStart(2) as the first call", () -> twoTones().noteStart(2));
+        CHECK.refusesIndex("noteLength(2) as the first call", () -> twoTones().noteLength(2));
+    }
+
+    private static PitchTracker twoTones() {
         PitchTracker x = new PitchTracker();
         x.feedWave(2, 2, 50, 192);
         x.feedWave(2, 4, 50, 192);
+        return x;
+    }
+
+    /** The lag is 2 for the frames 0 to 4, then 4: another octave, or at the base 64 the same. */
+    private static void nameBeginsNote() {
+        PitchTracker x = twoTones();
         notesAre("two tones", x, 0, 0, 0, 0, 0, 1, 1, 1, 1);
         CHECK.same("name(4) of two tones", x.name(4), x.name(5));
         CHECK.same("octave(4) of two tones", x.octave(4), x.octave(5) + 1);

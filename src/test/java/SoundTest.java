@@ -56,6 +56,19 @@ public final class SoundTest {
         CHECK.same("period(0) of the square of 2", tone.period(0), 128);
         CHECK.same("octave(0) at the base 4096", tone.octave(0), 5);
         CHECK.same("name(0) at the base 4096", tone.name(0), 0);
+        // 2814.98 and 2234.16 lie halfway between two patterns of 4096, of 4097 2815.66 does, and of
+        // 4095 2233.61.
+        newObjectNames(44, 41, 2, 2815, 6);
+        newObjectNames(35, 46, 3, 2234, 11);
+    }
+
+    private static void newObjectNames(int period, int amplitude, int seed, int due, int name) {
+        PitchTracker x = new PitchTracker();
+        x.feedWave(1, period, amplitude, 128 - 10 * seed);
+        x.feedNoise(seed, amplitude, 10 * seed);
+        CHECK.same("period(0) of a blurred triangle of " + period, x.period(0), due);
+        CHECK.same("name(0) of a blurred triangle of " + period, x.name(0), name);
+        CHECK.same("octave(0) of a blurred triangle of " + period, x.octave(0), 0);
     }
 
     private static void feed() {
