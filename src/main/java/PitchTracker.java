@@ -323,23 +323,25 @@ public final class PitchTracker {
         }
     }
 
-    /** A row of numbers for each frame. */
+    /** A row of numbers for each frame; a place outside them reads as 0 and takes nothing. */
     private static final class Table {
         private final int columns;
-        private final Row cells;
+        private final int[] cells;
 
         Table(int columns) {
             this.columns = columns;
-            cells = new Row(MOST_FRAMES * columns);
+            cells = new int[columns > 0 ? MOST_FRAMES * columns : 0];
         }
 
         int at(int frame, int column) {
-            return column >= 0 && column < columns ? cells.at(frame * columns + column) : 0;
+            int k = frame * columns + column;
+            return column >= 0 && column < columns && k >= 0 && k < cells.length ? cells[k] : 0;
         }
 
         void put(int frame, int column, int value) {
-            if (column >= 0 && column < columns) {
-                cells.put(frame * columns + column, value);
+            int k = frame * columns + column;
+            if (column >= 0 && column < columns && k >= 0 && k < cells.length) {
+                cells[k] = value;
             }
         }
     }

@@ -75,6 +75,14 @@ final class Check {
         return thrown.equals(NOTHING) ? Long.toString(answer[0]) : "throws." + thrown;
     }
 
+    int rightOnes() {
+        return right;
+    }
+
+    int wrongOnes() {
+        return wrong;
+    }
+
     void close() {
         System.out.println(title + ": " + right + " right, " + wrong + " wrong");
         if (wrong != 0 || right == 0) {

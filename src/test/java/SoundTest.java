@@ -183,7 +183,7 @@ public final class SoundTest {
     private static void noise() {
         PitchTracker one = new PitchTracker();
         CHECK.same("feedNoise(1, 100, 3)", one.feedNoise(1, 100, 3), 3);
-        // z becomes 1103527590, then -1770999271: above their lowest 16 bits 16838 and 38513.
+        // z becomes 1103527590, then -1770082073: above their lowest 16 bits 16838 and 38526.
         CHECK.same("sample(0) after feedNoise(1, 100, 3)", one.sample(0), 16838 % 201 - 100);
         int next = 1103527590 * 1103515245 + 12345;
         CHECK.same("sample(1) after feedNoise(1, 100, 3)", one.sample(1),
