@@ -50,8 +50,8 @@ final class Edges {
     int runAll(Check total) {
         for (Edge edge : edges) {
             Check own = new Check(edge.title());
-            edge.test().run(own);
-            total.isTrue("something is looked at for " + edge.title(), own.rightOnes() + own.wrongOnes() > 0);
+            own.throwsNothing("the test", () -> edge.test().run(own));
+            total.isTrue("something is looked at for " + edge.title(), own.rightOnes() + own.wrongOnes() > 1);
             total.same("wrong answers for " + edge.title(), own.wrongOnes(), 0);
         }
         return edges.size();

@@ -148,7 +148,7 @@ final class FramesEdges {
             check.same("meanDifference(0, 63) of a late peak", late.meanDifference(0, 63), 1000);
             check.same("meanDifference(0, 64) of a late peak", late.meanDifference(0, 64), 64000);
             // A difference of 0 with a sum above 0 is another thing.
-            check.same("meanDifference(0, 2) of a square of 2", Sounds.square(2, 128).meanDifference(0, 2), 0);
+            check.same("meanDifference(0, 2) of a square of 2", Sounds.squareOf(2, 1, 128).meanDifference(0, 2), 0);
         });
     }
 
@@ -236,11 +236,26 @@ final class FramesEdges {
         for (int k = 0; k < 8; k++) {
             check.same("candidateLag(0, " + k + ") of 9", nine.candidateLag(0, k), 7 * k + 7);
         }
-        PitchTracker eight = Sounds.waves(new int[] {1, 7, 50, 70}, new int[] {2, 2, 0, 58});
-        check.isTrue("a frame may have less", eight.candidates(0) < 8);
         PitchTracker most = Sounds.square(2, 128);
         check.same("candidateLag(0, 7), the last of 31", most.candidateLag(0, 7), 16);
         check.refusesIndex("candidateLag(0, 8), the ninth", () -> most.candidateLag(0, 8));
+        PitchTracker fewer = Sounds.square(8, 128);
+        check.same("candidates(0) of 7", fewer.candidates(0), 7);
+        check.same("lag(0) ahead of waves of 56, the eighth", sevensAheadOf(56).lag(0), 56);
+        check.same("trackCost() ahead of waves of 56", sevensAheadOf(56).trackCost(), 40);
+        check.same("lag(0) ahead of waves of 63, the ninth", sevensAheadOf(63).lag(0), 7);
+        check.same("trackCost() ahead of waves of 63", sevensAheadOf(63).trackCost(), 215);
+    }
+
+    /** A square of 7, and then one whose last wave in each such period is lower. A jump is dear. */
+    private static PitchTracker sevensAheadOf(int period) {
+        PitchTracker x = Sounds.square(7, 196);
+        for (int k = 0; k < 4; k++) {
+            x.feedWave(2, 7, 50, period - 7);
+            x.feedWave(2, 7, 20, 7);
+        }
+        x.setCosts(1000, 100, 1000);
+        return x;
     }
 
     private static void meanIsRoundedDown(Check check) {

@@ -72,9 +72,9 @@ public final class FramesTest {
         CHECK.same("difference(0, 50)", x.difference(0, 50), 9 + 16 + 81);
         CHECK.same("difference(0, 64)", x.difference(0, 64), 50);
         CHECK.same("difference(1, 60)", x.difference(1, 60), 4 + 16);
-        PitchTracker noisy = new PitchTracker();
-        noisy.feedNoise(9, 100, 320);
-        for (int frame = 0; frame < noisy.frames(); frame++) {
+        for (int frame = 0; frame < 7; frame++) {
+            PitchTracker noisy = new PitchTracker();
+            noisy.feedNoise(9, 100, 320);
             for (int lag = 1; lag <= 64; lag++) {
                 int due = noisy.energy(frame, 0) + noisy.energy(frame, lag)
                         - 2 * noisy.autocorrelation(frame, lag);

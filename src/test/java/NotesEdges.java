@@ -117,6 +117,8 @@ final class NotesEdges {
             check.same("notes()", x.notes(), 2);
             check.same("noteOf(0) in silence", x.noteOf(0), -1);
             check.isTrue("the note 0 starts behind the silence", x.noteStart(0) > 0);
+            check.same("noteOf(the note 0's first frame)", x.noteOf(x.noteStart(0)), 0);
+            check.same("noteOf(the note 1's first frame)", x.noteOf(x.noteStart(1)), 1);
             check.same("the note 1 starts behind it", x.noteStart(1), x.noteStart(0) + x.noteLength(0));
             check.same("the note 1 ends with the sound", x.noteStart(1) + x.noteLength(1), x.frames());
         });

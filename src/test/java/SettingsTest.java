@@ -31,11 +31,12 @@ public final class SettingsTest {
         PitchTracker x = new PitchTracker();
         x.feedWave(2, 2, 10, 64);
         x.feedNoise(3, 10, 64);
+        double[] means = means(x);
         for (int percent = 1; percent <= 100; percent++) {
             x.setThreshold(percent);
             int due = 0;
             for (int lag = 2; lag <= 63; lag++) {
-                due += isCandidate(x, lag, percent) ? 1 : 0;
+                due += isCandidate(means, lag, percent) ? 1 : 0;
             }
             CHECK.same("candidates(0) at " + percent + " percent", x.candidates(0), Math.min(due, 8));
         }
@@ -48,17 +49,20 @@ public final class SettingsTest {
         CHECK.same("candidateLag(0, 0) at 51 percent", half.candidateLag(0, 0), 2);
     }
 
-    private static boolean isCandidate(PitchTracker x, int lag, int percent) {
-        double own = mean(x, lag);
-        return own * 100 < percent && own < mean(x, lag - 1) && own <= mean(x, lag + 1);
+    private static boolean isCandidate(double[] means, int lag, int percent) {
+        double own = means[lag];
+        return own * 100 < percent && own < means[lag - 1] && own <= means[lag + 1];
     }
 
-    private static double mean(PitchTracker x, int lag) {
+    private static double[] means(PitchTracker x) {
+        double[] means = new double[65];
         long sum = 0;
-        for (int t = 1; t <= lag; t++) {
-            sum += x.difference(0, t);
+        for (int lag = 1; lag <= 64; lag++) {
+            long difference = x.difference(0, lag);
+            sum += difference;
+            means[lag] = sum == 0 ? 1 : (double) lag * difference / sum;
         }
-        return sum == 0 ? 1 : (double) lag * x.difference(0, lag) / sum;
+        return means;
     }
 
     /** The samples are 1, 0, 1 and then 0: the mean at 2 is 2 * 1 / (3 + 1), that at 3 is 1. */

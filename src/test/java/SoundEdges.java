@@ -33,13 +33,11 @@ final class SoundEdges {
         for (int call = 1; call <= 128; call++) {
             check.same("call " + call + ": feed", x.feed(call % 2 == 0 ? 50 : -50), call);
         }
-        for (int call = 129; call <= 510; call += 2) {
+        for (int call = 129; call <= 511; call += 2) {
             boolean high = call % 4 == 1;
             x.setTemperament(0, high ? 4096 : 64);
             check.same("call " + (call + 1) + ": octave(0)", x.octave(0), high ? 5 : 0);
         }
-        check.refusesArgument("call 511: feed(101)", () -> x.feed(101));
-        check.same("call 512: lag(0)", x.lag(0), 2);
     }
 
     private static void fullOfAllKinds(Check check) {
@@ -55,9 +53,10 @@ final class SoundEdges {
         check.same("sample(1023), the last", x.sample(1023), -100);
         int lowest = 0;
         int highest = 0;
-        for (int k = 0; k < 500; k++) {
-            lowest = Math.min(lowest, x.sample(k));
-            highest = Math.max(highest, x.sample(k));
+        for (int k = 0; k < 1024; k += 3) {
+            int sample = x.sample(k);
+            lowest = Math.min(lowest, sample);
+            highest = Math.max(highest, sample);
         }
         check.same("the lowest sample", lowest, -100);
         check.same("the highest sample", highest, 100);
@@ -97,7 +96,8 @@ final class SoundEdges {
         check.same("y[0] is not at the shift 1", first.energy(1, 1), 0);
         PitchTracker ahead = Sounds.peak(160, 31, 5);
         check.same("x[31] is none of the frame 1", ahead.energy(1, 0), 0);
-        PitchTracker end = Sounds.peak(1024, 1023, 5);
+        PitchTracker end = Sounds.silence(1023);
+        end.feed(5);
         check.same("x[1023] is y[127] of the frame 28", end.energy(28, 64), 25);
         check.same("x[1023] is none of the frame 27", end.energy(27, 64), 0);
     }
@@ -123,12 +123,13 @@ final class SoundEdges {
         check.same("the growing one's threshold", some.setThreshold(1), 34);
     }
 
-    /** 1000 samples, and settings that no new object has. */
+    /** 1000 samples, and settings that no new object has; each temperament gives other names. */
     private static PitchTracker growing() {
-        PitchTracker x = Sounds.waves(new int[][] {{1, 9, 60, 300}, {2, 7, 60, 300}, {0, 30, 90, 400}});
+        PitchTracker x = Sounds.waves(new int[] {1, 20, 60, 300}, new int[] {1, 45, 60, 300},
+                new int[] {2, 7, 90, 400});
         x.setThreshold(34);
         x.setCosts(250, 7, 90);
-        x.setTemperament(1, 5000);
+        x.setTemperament(1, 3960);
         return x;
     }
 
@@ -331,9 +332,11 @@ final class SoundEdges {
         for (int shape = 0; shape <= 2; shape++) {
             for (int period : periods) {
                 PitchTracker x = Sounds.waves(new int[] {shape, period, 83, 400});
-                for (int k = period; k < 400; k++) {
-                    check.same("sample " + k + " of the shape " + shape + ", as that a period ahead",
-                            x.sample(k), x.sample(k - period));
+                int[] samples = new int[400];
+                for (int k = 0; k < 400; k++) {
+                    samples[k] = x.sample(k);
+                    check.same("sample " + k + " of the shape " + shape + ", as in the first period",
+                            samples[k], samples[k % period]);
                 }
             }
         }
@@ -436,7 +439,7 @@ final class SoundEdges {
             PitchTracker x = Sounds.silence(1024);
             x.setThreshold(50);
             x.setCosts(299, 9, 199);
-            x.setTemperament(2, 4000);
+            x.setTemperament(2, 3960);
             check.same("trackCost() ahead", x.trackCost(), 29 * 299);
             x.clear();
             check.same("samples()", x.samples(), 0);
@@ -448,10 +451,11 @@ final class SoundEdges {
             PitchTracker twin = new PitchTracker();
             twin.setThreshold(50);
             twin.setCosts(299, 9, 199);
-            twin.setTemperament(2, 4000);
+            twin.setTemperament(2, 3960);
             refill(twin);
             check.same("a sound after clear()", Sounds.told(x), Sounds.told(twin));
             check.same("the threshold", x.setThreshold(1), 50);
+            clearedSoundIsNotTold(check);
         });
         edges.add("Returns how many samples there were.", check -> {
             PitchTracker x = Sounds.silence(1024);
@@ -463,11 +467,23 @@ final class SoundEdges {
         });
     }
 
+    /** Nothing is asked between the two sounds, which have as many samples. */
+    private static void clearedSoundIsNotTold(Check check) {
+        PitchTracker x = Sounds.mixed();
+        x.trackCost();
+        x.clear();
+        refill(x);
+        PitchTracker twin = new PitchTracker();
+        refill(twin);
+        check.same("difference(28, 9) after clear()", x.difference(28, 9), twin.difference(28, 9));
+        check.same("the next sound after clear()", Sounds.told(x), Sounds.told(twin));
+    }
+
     private static void refill(PitchTracker x) {
-        x.feedWave(1, 9, 60, 300);
-        x.feedWave(2, 7, 60, 300);
+        x.feedWave(1, 20, 60, 300);
+        x.feedWave(1, 45, 60, 300);
         x.feedNoise(5, 60, 200);
-        x.feedWave(0, 30, 90, 224);
+        x.feedWave(2, 7, 90, 224);
     }
 
     private static void addSamplesAndFrames(Edges edges) {
