@@ -330,7 +330,8 @@ public final class PitchTracker {
 
         Table(int columns) {
             this.columns = columns;
-            cells = new int[columns > 0 ? MOST_FRAMES * columns : 0];
+            int length = MOST_FRAMES * columns;
+            cells = new int[length > 0 ? length : 0];
         }
 
         int at(int frame, int column) {
